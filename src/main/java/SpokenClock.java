@@ -1093,7 +1093,7 @@ public final class SpokenClock {
             int top = Math.min(state.dues.greatest(DUE_CLOCK), LAST);
             payDues(end);
             for (int minute = end - 1; minute >= 0; minute--) {
-                // Beyond the top all dues are paid, and no step is worth its price.
+                // Beyond the top a step brings no due any more.
                 chooseSteps(minute, top);
                 payDues(minute);
             }
@@ -1110,7 +1110,7 @@ public final class SpokenClock {
             }
         }
 
-        /** Clocks upward, in one row: a clock looks at itself and at higher ones, which are still the next minute's. */
+        /** Clocks upward, in one row: the higher ones, to which one steps, are still the next minute's. */
         private void chooseSteps(int minute, int top) {
             int fast = state.settings[FAST];
             int highest = Math.min(fast * minute + 1, top);

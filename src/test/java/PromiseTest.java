@@ -30,6 +30,7 @@ public final class PromiseTest {
         plans();
         planEdges();
         silences();
+        longSilences();
         silenceEdges();
         nights();
         nightEdges();
@@ -90,12 +91,14 @@ public final class PromiseTest {
         for (int what = 0; what <= 5; what++) {
             is("new count", x.count(what), 0);
         }
+        is("new fault", new SpokenClock().fault(), 1);
+        is("new who", new SpokenClock().who(0), 1);
+        is("new best", new SpokenClock().best(1), 0);
         is("new fast", x.put(0, 1), 1);
         is("new songs", x.put(1, 0), 0);
         is("new bed", x.put(2, 60), 60);
         is("new clock 0", x.clock(0, 240), 0);
         is("new clock 1", x.clock(1, 240), 0);
-        is("new fault", x.fault(), 1);
         is("new sign", x.sign(0), 0);
         is("new above", x.sign(1), 0);
         is("new below", x.sign(2), 1);
@@ -320,7 +323,8 @@ public final class PromiseTest {
             "due 0 - 1 0;", "due 0 0 -;", "due 0 0 1 - 1;", "sight 241 0;", "sight 240 1000;", "sight 1 - 1;", "fast 1,",
             "fast 1; x", "fast 1;\t", "fast\0", "bed 12a;", "be d 1;", "talk", "fast1;bed2;songs1;bedd", "person person",
             "due 0 0 - 0", "fast 1; 12345", "sight 12345 0;", "talk 0 0 5;person 0 0;", "perso 0 0;", "personn 0 0;",
-            "fast" + many(" ", 100) + "9;"};
+            "fast" + many(" ", 100) + "9;", "fastz 1;", "afast 1;", "`fast 1;", "fast 1{", "fast 1:", "fast /1;",
+            "person 0 0;talk 0 0 0;", "fast 1;fast\u00e4 2;"};
         int[] places = {
             0, 0, 4, 5, 5, 5, 5, 5, 6, 7,
             7, 5, 7, 0, 0, 0, 5, 5, 6, 4,
@@ -330,7 +334,8 @@ public final class PromiseTest {
             6, 9, 10, 6, 10, 8, 6,
             8, 7, 4, 6, 0, 4, 18, 7,
             11, 8, 6, 5, 0, 0,
-            104};
+            104, 0, 0, 0, 6, 6, 5,
+            20, 11};
         for (int i = 0; i < texts.length; i++) {
             SpokenClock x = new SpokenClock();
             is("fault of '" + texts[i] + "'", read(x, texts[i]), -10 - places[i]);
@@ -414,7 +419,7 @@ public final class PromiseTest {
     private static void ruleWorth() {
         String[] ones = {"1", "7-6", "2+3*4=14", "(2+3)*4=20", "10-3-2=5", "100/5/2=10", "2*3/4=1", "-7/2=-3", "7/-2=-3",
             "7/0=0", "0/0=0", "!0", "!(1-1)", "!!5=1", "--5=5", "!5=0", "-!0=-1", "!-0", "0|7", "7|0=1", "(0|7)=1",
-            "(3&2)=1", "!(3&0)", "1|0&0", "(1<2)=1", "(2<1)=0", "2>1", "!(1>1)", "1=1", "!(1=2)", "1<2&2<3", "1<1+1",
+            "(3&2)=1", "!(3&0)", "1|0&0", "(1<2)=1", "(2<1)=0", "2>1", "(2>1)=1", "(3=3)=1", "!(1>1)", "1=1", "!(1=2)", "1<2&2<3", "1<1+1",
             "1+1>1", "-1<0", "5-2*2=1", "-1", "999999", "-1*-1=1", "-2*3=-6", "1|1/0",
             "999999*999999*999999*999999<0", "(1+1=2)+1=2", "-(3)", "0-0|1", "s-s|1&1", "1 = 1"};
         for (String rule : ones) {
@@ -425,6 +430,9 @@ public final class PromiseTest {
         for (String rule : noughts) {
             is("worth of " + rule, worth(rule, 4), 0);
         }
+        is("39 times not", worth(many("!", 39) + "0", 0) * 10 + worth(many("!", 39) + "1", 0), 10);
+        is("39 times less", worth(many("-", 37) + "1<0", 0), 1);
+        is("twenty in a row", worth("s" + many("+s", 17) + "=18", 1), 1);
         is("least long by -1", worth("(0-64*65536*65536*65536*512)/-1<0", 0), 1);
         is("longs wrap", worth("64*65536*65536*65536*512<0", 0), 1);
         is("longs wrap on", worth("64*65536*65536*65536*1024=0", 0), 1);
@@ -472,6 +480,12 @@ public final class PromiseTest {
         is("c of his valley: then", x.counts(4, 9), 1);
         is("c of his valley: gone on", x.counts(4, 10), 0);
         is("clock by the rule", x.clock(1, 240), 10);
+        x.clears(0);
+        x.talk(4, 20, 60);
+        write(x, "c=s-20");
+        is("c and s", x.counts(4, 59), 1);
+        write(x, "c=s");
+        is("c is not s", x.counts(4, 30), 0);
         is("the other clock", x.clock(0, 240), 0);
     }
 
@@ -779,6 +793,22 @@ public final class PromiseTest {
         is("dearer: second one", y.step(3, 19), 3);
         is("dearest", y.best(4), 0);
         is("dearest by a minute: 5 more steps lose", y.minute(4), 2);
+        SpokenClock z = new SpokenClock();
+        z.put(0, 4);
+        z.due(40, 10, 9);
+        z.due(60, 15, 9);
+        z.due(84, 21, 9);
+        z.due(99, 99, 9);
+        is("ahead of the sun", z.best(0), 36);
+        is("not all at 1", z.best(1), 0);
+        is("at the start", z.step(0, 0), 4);
+        is("at 9", z.step(0, 9), 4);
+        is("at 10", z.step(0, 10), 4);
+        is("at 20", z.step(0, 20), 4);
+        is("at 21", z.step(0, 21), 0);
+        is("at 94", z.step(0, 94), 0);
+        is("at 95", z.step(0, 95), 3);
+        is("at 98", z.step(0, 98), 4);
     }
 
     /** 23, 24 */
@@ -810,10 +840,28 @@ public final class PromiseTest {
         is("as alike in all: 0", x.silence(9, 1, 0), 0);
     }
 
+    /** 23, 24: by turns, as far as they go. */
+    private static void longSilences() {
+        SpokenClock x = new SpokenClock();
+        x.stake(20, 20, 99, 99, 5);
+        is("ten minutes: she talks thrice", x.silence(10, 5, 0), 84);
+        is("ten minutes: he talks twice", x.silence(10, 5, 1), 89);
+        is("forty minutes", x.silence(40, 20, 0), 49);
+        is("forty minutes: first", x.silence(40, 20, 2), 0);
+        x.stake(0, 0, -10, 10, 0);
+        is("the last minute but one is not hers", x.silence(40, 1, 2), 39);
+        is("an odd last minute", x.silence(39, 1, 2), 37);
+        is("a far end", x.silence(40, 20, 3), 20);
+        x.stake(0, 0, 99, 99, 10);
+        is("no fee for the other's talk", x.silence(2, 2, 0) + 1000 * x.silence(2, 2, 1), 89089);
+    }
+
     /** 23, 24: edges, wrong arguments. */
     private static void silenceEdges() {
         SpokenClock x = new SpokenClock();
         is("la 20", x.stake(20, 20, 99, -99, 99), 1);
+        is("other edges", x.stake(0, 0, -99, 99, 0), 1);
+        is("the first again", x.stake(20, 20, 99, -99, 99), 1);
         is("la 21", x.stake(21, 0, 0, 0, 0), BAD);
         is("la -1", x.stake(-1, 0, 0, 0, 0), BAD);
         is("lb 21", x.stake(0, 21, 0, 0, 0), BAD);
@@ -1173,6 +1221,9 @@ public final class PromiseTest {
         is("who of two", x.who(0), 2);
         x.clears(1);
         is("best of none", x.best(0), 0);
+        is("clock before it is read", x.clock(0, 100), 200);
+        is("who before it is read", x.who(1), 1);
+        is("best before it is read", x.best(2), 0);
         read(x, "person 0 0;talk 0 0 7;due 3 7 8;sight 7 7;");
         is("clock read", x.clock(0, 100), 7);
         is("who read", x.who(1), 1);

@@ -1,4 +1,6 @@
 import java.io.IOException;
+import java.io.PrintWriter;
+import java.io.StringWriter;
 import java.lang.reflect.Constructor;
 import java.lang.reflect.Field;
 import java.lang.reflect.Method;
@@ -10,10 +12,13 @@ import java.util.ArrayList;
 import java.util.Arrays;
 import java.util.HashSet;
 import java.util.List;
+import java.util.Map;
 import java.util.Set;
+import java.util.TreeMap;
 import java.util.TreeSet;
 import java.util.regex.Matcher;
 import java.util.regex.Pattern;
+import java.util.spi.ToolProvider;
 
 /** The rules of LANGUAGE.md that can be seen in the source and in the compiled class. */
 public final class SourceTest {
@@ -43,6 +48,7 @@ public final class SourceTest {
         for (Class<?> c : all) {
             shape(c);
         }
+        depths(all);
         System.out.println(wrong == 0 ? "the source keeps to the rules" : wrong + " breaches");
         if (wrong != 0) {
             System.exit(1);
@@ -133,5 +139,73 @@ public final class SourceTest {
             check(Modifier.isPublic(m.getModifiers()) || !faceNames.contains(m.getName()), "1: the name of " + m);
             check(!m.isSynthetic(), "2: " + m);
         }
+    }
+
+    /** 8, 11: the parser of THE RULE alone calls itself; all calls together go at most eight deep. */
+    private static void depths(List<Class<?>> all) {
+        Map<String, Set<String>> calls = new TreeMap<>();
+        for (Class<?> c : all) {
+            calls.putAll(callsIn(c.getName()));
+        }
+        Set<String> parser = Set.of("SpokenClock$Rule.parseLevel", "SpokenClock$Rule.parseUnit",
+                "SpokenClock$Rule.parseOperand");
+        Map<String, Integer> known = new TreeMap<>();
+        for (String method : calls.keySet()) {
+            // The parser's three are one circle: they count as three, from whichever it is entered.
+            int depth = depth(method, calls, parser, known, new TreeSet<>());
+            check(depth <= 8, "11: " + depth + " deep: " + method);
+        }
+        check(calls.size() > 100, "11: javap told of " + calls.size() + " methods alone");
+    }
+
+    private static int depth(String method, Map<String, Set<String>> calls, Set<String> parser,
+            Map<String, Integer> known, Set<String> open) {
+        Integer had = known.get(method);
+        if (had != null) {
+            return had;
+        }
+        if (!open.add(method)) {
+            check(false, "8: " + method + " calls itself");
+            return 0;
+        }
+        Set<String> next = new TreeSet<>();
+        boolean isParser = parser.contains(method);
+        for (String one : isParser ? parser : Set.of(method)) {
+            next.addAll(calls.getOrDefault(one, Set.of()));
+        }
+        next.removeAll(isParser ? parser : Set.of());
+        int most = 0;
+        for (String called : next) {
+            most = Math.max(most, depth(called, calls, parser, known, open));
+        }
+        open.remove(method);
+        known.put(method, most + (isParser ? parser.size() : 1));
+        return known.get(method);
+    }
+
+    private static Map<String, Set<String>> callsIn(String name) {
+        StringWriter told = new StringWriter();
+        PrintWriter to = new PrintWriter(told);
+        ToolProvider.findFirst("javap").orElseThrow().run(to, to, "-c", "-p", "-cp",
+                System.getProperty("java.class.path"), name);
+        Map<String, Set<String>> calls = new TreeMap<>();
+        Set<String> current = new TreeSet<>();
+        Pattern head = Pattern.compile("^  \\S.*?([\\w$]+)\\(.*\\);$");
+        Pattern call = Pattern.compile("invoke\\w+ .*// (?:Interface)?Method ([^:]+):");
+        for (String line : told.toString().split("\\R")) {
+            Matcher starts = head.matcher(line);
+            Matcher calling = call.matcher(line);
+            if (starts.find()) {
+                String method = name.equals(starts.group(1)) ? "<init>" : starts.group(1);
+                current = calls.computeIfAbsent(name + "." + method, k -> new TreeSet<>());
+            } else if (calling.find()) {
+                String called = calling.group(1).replace("\"", "");
+                called = called.contains(".") ? called : name + "." + called;
+                if (called.startsWith("SpokenClock")) {
+                    current.add(called);
+                }
+            }
+        }
+        return calls;
     }
 }
