@@ -9,6 +9,20 @@ final class PeopleEdges extends Sentences {
     }
 
     private static void valleys() {
+        // "THE SUN has minutes 0 .." ends the part ahead of the Terms, which go on with its last one.
+        says("## Terms 240.", () -> {
+            SpokenClock x = told("person 0 0;talk 0 0 240;");
+            is("the first minute that is talked in", x.counts(0, 0), 1);
+            is("the last one", x.counts(0, 239), 1);
+            is("minute 240 begins", x.clock(0, 240), 240);
+            is("and is reached", x.sun(0, 240), 240);
+            is("seen there", x.sight(240, 240), 0);
+            is("come there", x.letter(0, 0, 240), 0);
+            bad(x, "no minute 241", () -> x.clock(0, 241));
+            bad(x, "none seen there", () -> x.sight(241, 240));
+            bad(x, "no minute -1", () -> x.clock(0, -1));
+            bad(x, "no talk in 240", () -> x.counts(0, 240));
+        });
         says("VALLEYS 0, 1 have a CLOCK each: 0 at minute 0.", () -> {
             SpokenClock x = told("person 1 0;person 0 1;talk 0 0 240;talk 1 0 7;fast 4;");
             is("CLOCK 0 at minute 0", x.clock(0, 0), 0);

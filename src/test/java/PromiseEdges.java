@@ -192,6 +192,9 @@ final class PromiseEdges extends Sentences {
             is("40", x.erase(), 40);
             is("empty", 10 * x.count(5) + x.fault(), 1);
             is("room again", x.write('1'), 1);
+            is("no FAULT", x.fault(), NONE);
+            is("one", x.erase(), 1);
+            is("FAULT again", x.fault(), 1);
         });
         says("`int fault()`: FAULT of THE RULE (empty: 1). NONE.", () -> {
             SpokenClock x = new SpokenClock();
@@ -304,6 +307,10 @@ final class PromiseEdges extends Sentences {
             SpokenClock x = told("due 1 5 9;");
             is("k 0", x.best(0), 9);
             is("k 9", x.best(9), 0);
+            x.due(0, 0, 8);
+            is("one DUE more", x.best(9), 8);
+            x.clears(1);
+            is("none", x.best(9), 0);
             lost(x, "k -1", () -> x.best(-1));
             lost(x, "k 10", () -> x.best(10));
             lost(x, "k the least", () -> x.best(LEAST));
@@ -468,7 +475,12 @@ final class PromiseEdges extends Sentences {
             is("1", x.from(1), 1);
             is("1 again", x.from(1), 1);
             x.person(0, 0);
+            x.talk(0, 0, 9);
+            x.due(0, 0, 9);
+            x.write('1');
+            is("ahead", 1000 * x.clock(0, 240) + 100 * x.best(0) + 10 * x.who(0) + x.fault(), 9919);
             is("back", 10 * x.from(1) + x.count(0), 10);
+            is("it goes on from there", 1000 * x.clock(0, 240) + 100 * x.best(0) + 10 * x.who(0) + x.fault(), 11);
         });
         says("`int status(int what)`: STATUS: BAD (0), NO (1), FULL (2). -1: another what (counts as BAD).", () -> {
             SpokenClock x = new SpokenClock();

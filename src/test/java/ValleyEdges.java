@@ -234,6 +234,7 @@ final class ValleyEdges extends Sentences {
                 x.stake(1, 2, 3, 4, 5);
                 x.night(1, 5, 1);
                 x.image(0);
+                is("ahead of it", 1000 * x.clock(0, 240) + 10 * x.best(0) + x.who(0), 9072);
                 int items = text.replace(" ", "").isEmpty() ? 0 : 1;
                 is("'" + text + "'", read(x, text), items);
                 is("PEOPLE", x.count(0), text.startsWith("person") ? 1 : 0);
@@ -243,6 +244,9 @@ final class ValleyEdges extends Sentences {
                 is("THE RULE", 10 * x.count(5) + x.fault(), 29);
                 is("what SILENCE is played for", x.silence(1, 1, 0), -1);
                 is("THE FRACTION", x.limb(1, 0), 2);
+                is("CLOCK 0", x.clock(0, 240), 0);
+                is("BEST", x.best(0), text.startsWith("due") ? 1 : 0);
+                is("WHO", x.who(0), text.startsWith("sight") ? 0 : 1);
                 is("FAST", x.put(0, 1), text.startsWith("fast") ? 3 : 1);
                 is("SONGS", x.put(1, 0), text.startsWith("songs") ? 1 : 0);
                 is("BED", x.put(2, 0), text.startsWith("bed") ? 9 : 60);
